@@ -1,0 +1,51 @@
+/** Promise 55: the checksum, reckoned again from the other answers. */
+final class DigestTests {
+    private DigestTests() {
+    }
+
+    static void run(Check check) {
+        check.same(55, "digest() of called floors", Scenes.called().digest(), of(Scenes.called()));
+        check.same(55, "digest() with a long suspense", Scenes.longSuspense().digest(), of(Scenes.longSuspense()));
+        check.same(55, "digest() as the first run under shared/tests tells", Scenes.told().digest(),
+                -5788921506083639864L);
+        LiftNovel x = Scenes.called();
+        x.turnTopic(1);
+        x.setLimit(2);
+        for (int hour = 0; hour < 12; hour++) {
+            check.same(55, "digest() at the hour " + hour, x.digest(), of(x));
+            x.passHours(1);
+        }
+    }
+
+    static long of(LiftNovel x) {
+        long[] lift = {x.floors(), x.hours(), x.liftAt(), x.goes(), x.calls(), x.stuckFor(), x.wear(), x.limit(),
+            x.suspense(), x.cuts(), x.instalments(), x.mostThrilling(), x.longestWait(), x.climbs(),
+            x.subscribers(), x.warmest(), x.kindest(), x.hoursUntilStuck(), x.printedIn(20),
+            x.subscribersIn(20), x.bestToCall(10), x.bestToAllow(10)};
+        long d = fold(2293, lift);
+        for (int f = 0; f < x.floors(); f++) {
+            d = fold(d, x.isCalled(f) ? 1 : 0, x.paragraphs(f), x.nextParagraph(f), x.cutOn(f), x.hoursUntilStop(f));
+        }
+        for (int t = 0; t <= 7; t++) {
+            d = fold(d, x.isForbidden(t) ? 1 : 0, x.toCome(t));
+        }
+        for (int i = 0; i < x.instalments(); i++) {
+            d = fold(d, x.floorIn(i), x.paragraphIn(i), x.thrillIn(i), x.hourIn(i));
+        }
+        for (int r = 0; r < x.readers(); r++) {
+            d = fold(d, x.warmthOf(r), x.isSubscriber(r) ? 1 : 0);
+        }
+        for (int m = 0; m < x.mirrors(); m++) {
+            d = fold(d, x.gradesBy(m), x.favouriteOf(m));
+        }
+        return d;
+    }
+
+    private static long fold(long start, long... numbers) {
+        long d = start;
+        for (long number : numbers) {
+            d = d * 31 + number;
+        }
+        return d;
+    }
+}
