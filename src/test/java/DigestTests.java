@@ -8,12 +8,44 @@ final class DigestTests {
         check.same(55, "digest() with a long suspense", Scenes.longSuspense().digest(), of(Scenes.longSuspense()));
         check.same(55, "digest() as the first run under shared/tests tells", Scenes.told().digest(),
                 -5788921506083639864L);
+        byTheHour(check);
         LiftNovel x = Scenes.called();
         x.turnTopic(1);
         x.setLimit(2);
         for (int hour = 0; hour < 12; hour++) {
             check.same(55, "digest() at the hour " + hour, x.digest(), of(x));
             x.passHours(1);
+        }
+    }
+
+    /** States in which an hour more or less of foresight makes a difference. */
+    private static void byTheHour(Check check) {
+        for (int floor = 1; floor <= 5; floor++) {
+            LiftNovel x = Scenes.standingOn(floor - 1);
+            x.setLimit(99);
+            x.call(11);
+            x.passHours(1);
+            x.addParagraph(0, 0, 0);
+            x.call(floor);
+            x.call(0);
+            check.same(55, "digest(), to be printed in " + (23 - floor) + " hours", x.digest(), of(x));
+            check.same(50, "printedIn(" + (22 - floor) + ")", x.printedIn(22 - floor), 0);
+            check.same(50, "printedIn(" + (23 - floor) + ")", x.printedIn(23 - floor), 1);
+        }
+        for (int warm = 18; warm <= 20; warm++) {
+            LiftNovel x = new LiftNovel();
+            x.addReader(0, warm);
+            check.same(55, "digest() with a reader warm by " + warm, x.digest(), of(x));
+        }
+        for (int floor = 9; floor <= 11; floor++) {
+            LiftNovel x = Scenes.standingOn(0);
+            x.addReader(5, 20);
+            x.addParagraph(1, 5, 1);
+            x.addParagraph(floor, 5, 9);
+            check.same(55, "digest(), best to call " + floor, x.digest(), of(x));
+            x.turnTopic(5);
+            x.call(floor);
+            check.same(55, "digest(), best to allow for " + floor, x.digest(), of(x));
         }
     }
 

@@ -10,6 +10,7 @@ final class ForesightTests {
         hoursUntilStuckFarAhead(check);
         printedIn(check);
         subscribersIn(check);
+        subscribersInWithSuspense(check);
         bestToCall(check);
         bestToCallByAllSubscribers(check);
         bestToAllow(check);
@@ -134,6 +135,25 @@ final class ForesightTests {
         check.same(51, "subscribersIn(40) when one is printed", x.subscribersIn(40), 0);
     }
 
+    /** The suspense of now, and what it grows by while the lift is stuck, count in what would be. */
+    private static void subscribersInWithSuspense(Check check) {
+        LiftNovel x = new LiftNovel();
+        x.setLimit(1);
+        x.addParagraph(0, 0, 9);
+        x.addParagraph(2, 0, 0);
+        x.addReader(0, 1);
+        x.call(0);
+        x.call(2);
+        x.passHours(2);
+        check.same(51, "stuckFor() ahead of it", x.stuckFor(), 1);
+        check.same(51, "subscribersIn(20) while it is stuck", x.subscribersIn(20), 1);
+        check.same(51, "subscribersIn(21) while it is stuck", x.subscribersIn(21), 0);
+        x.passHours(1);
+        check.same(51, "suspense() ahead of it", x.suspense(), 10);
+        check.same(51, "subscribersIn(19) with the suspense", x.subscribersIn(19), 1);
+        check.same(51, "subscribersIn(20) with the suspense", x.subscribersIn(20), 0);
+    }
+
     private static void bestToCall(Check check) {
         LiftNovel x = new LiftNovel();
         check.same(52, "bestToCall(1) without readers", x.bestToCall(1), 0);
@@ -193,6 +213,12 @@ final class ForesightTests {
         x.passHours(1);
         check.same(53, "bestToAllow(40), cut already", x.bestToAllow(40), -1);
         check.same(53, "cuts()", x.cuts(), 1);
+        LiftNovel y = new LiftNovel();
+        y.addParagraph(0, 0, 1);
+        y.turnTopic(0);
+        y.call(0);
+        check.same(53, "bestToAllow(1), the topic 0", y.bestToAllow(1), 0);
+        check.same(50, "printedIn(1), the topic 0 forbidden", y.printedIn(1), 0);
     }
 
     /** One paragraph an hour: of the topics 6, 5, 6, 5 and 5. */

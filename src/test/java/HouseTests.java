@@ -8,6 +8,7 @@ final class HouseTests {
         twoObjects(check);
         beginSizes(check);
         beginClears(check);
+        beginWithWearAndAWay(check);
         beginKeeps(check);
         beginForgetsTheLatestThrill(check);
         addParagraph(check);
@@ -68,19 +69,21 @@ final class HouseTests {
         LiftNovel x = new LiftNovel();
         x.begin(12);
         x.turnTopic(3);
+        x.addParagraph(0, 3, 9);
+        x.addParagraph(0, 1, 9);
         x.addParagraph(2, 1, 9);
         x.addParagraph(5, 3, 9);
         x.addParagraph(9, 1, 9);
         x.setLimit(7);
+        x.call(0);
         x.call(2);
         x.call(5);
         x.call(11);
-        x.passHours(8);
+        x.passHours(9);
+        x.call(0);
         check.same(2, "ahead of it: stuckFor()", x.stuckFor(), 1);
         check.same(2, "ahead of it: suspense()", x.suspense(), 10);
-        check.same(2, "ahead of it: cuts()", x.cuts(), 1);
-        x.repair();
-        x.passHours(1);
+        check.same(2, "ahead of it: cuts()", x.cuts(), 2);
         x.begin(3);
         x.begin(12);
         for (int floor = 0; floor < 12; floor++) {
@@ -100,6 +103,28 @@ final class HouseTests {
         check.same(2, "mostThrilling()", x.mostThrilling(), -1);
         check.same(2, "addParagraph(2, 0, 0)", x.addParagraph(2, 0, 0), 0);
         check.same(2, "nextParagraph(2)", x.nextParagraph(2), 0);
+    }
+
+    private static void beginWithWearAndAWay(Check check) {
+        LiftNovel x = new LiftNovel();
+        x.call(5);
+        x.passHours(3);
+        check.same(2, "ahead of it: wear()", x.wear(), 3);
+        check.same(2, "ahead of it: goes()", x.goes(), 1);
+        x.begin(6);
+        check.same(2, "wear()", x.wear(), 0);
+        check.same(2, "goes()", x.goes(), 0);
+        check.same(2, "liftAt()", x.liftAt(), 0);
+        check.same(2, "hours()", x.hours(), 3);
+        LiftNovel y = Scenes.told();
+        y.begin(6);
+        y.addParagraph(5, 0, 0);
+        y.call(5);
+        y.passHours(5);
+        check.same(2, "instalments() of the new novel", y.instalments(), 1);
+        check.same(2, "longestWait() of the new novel", y.longestWait(), 0);
+        check.same(2, "climbs() of the new novel", y.climbs(), 0);
+        check.same(2, "hourIn(0), hours stay", y.hourIn(0), 10);
     }
 
     private static void beginKeeps(Check check) {

@@ -108,6 +108,7 @@ final class InstalmentTests {
     private static void allOfThem(Check check) {
         LiftNovel x = new LiftNovel();
         x.begin(12);
+        x.setLimit(99);
         for (int number = 0; number < 9; number++) {
             for (int floor = 0; floor < 12; floor++) {
                 x.addParagraph(floor, (floor + number) % 8, (floor * number) % 10);
@@ -123,6 +124,10 @@ final class InstalmentTests {
         check.same(29, "instalments()", x.instalments(), 108);
         check.same(10, "all that passHours() answered", printed, 108);
         check.same(31, "paragraphIn(107)", x.paragraphIn(107), 8);
+        check.same(34, "mostThrilling(), a thrill of 9", x.thrillIn(x.mostThrilling()), 9);
+        check.same(35, "longestWait(), between the rounds", x.longestWait(), 19);
+        check.same(36, "climbs(), in every second round", x.climbs(), 11 * 5);
+        check.same(55, "digest()", x.digest(), DigestTests.of(x));
         for (int topic = 0; topic < 8; topic++) {
             check.same(28, "toCome(" + topic + ")", x.toCome(topic), 0);
         }

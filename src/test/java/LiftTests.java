@@ -14,6 +14,7 @@ final class LiftTests {
         nearestFirst(check);
         goesOnTheWayItGoes(check);
         goesOnDown(check);
+        asNearBothWays(check);
         stopsOnTheWay(check);
         floorsAndHours(check);
         isCalled(check);
@@ -185,6 +186,47 @@ final class LiftTests {
         x.passHours(2);
         check.same(13, "liftAt()", x.liftAt(), 3);
         check.yes(15, "isCalled(8)", x.isCalled(8));
+    }
+
+    /** Of two as near it goes up, but for one that goes down already; and one that goes up turns if none is above. */
+    private static void asNearBothWays(Check check) {
+        LiftNovel x = Scenes.standingOn(8);
+        x.call(4);
+        x.passHours(3);
+        x.call(6);
+        x.passHours(1);
+        check.same(13, "liftAt(), one as near behind it", x.liftAt(), 4);
+        x = Scenes.standingOn(3);
+        x.call(5);
+        x.call(0);
+        x.passHours(2);
+        check.same(14, "goes(), one far below it", x.goes(), 1);
+        x.call(4);
+        x.passHours(1);
+        check.same(13, "liftAt(), called one below, none above", x.liftAt(), 4);
+        x = Scenes.standingOn(3);
+        x.call(5);
+        x.call(6);
+        x.passHours(2);
+        x.call(4);
+        x.passHours(1);
+        check.same(13, "liftAt(), called one below and one above", x.liftAt(), 6);
+        x.call(4);
+        x.call(3);
+        x.passHours(1);
+        check.same(13, "liftAt() when it has turned", x.liftAt(), 5);
+        check.same(14, "goes() when it has turned", x.goes(), -1);
+        x = Scenes.standingOn(5);
+        x.call(3);
+        x.call(2);
+        x.passHours(2);
+        x.repair();
+        x.call(4);
+        check.same(14, "goes() of a repaired one", x.goes(), -1);
+        x.passHours(1);
+        check.same(13, "liftAt(), the way it went ahead of repair()", x.liftAt(), 2);
+        x.passHours(1);
+        check.same(14, "goes(), none below", x.goes(), 1);
     }
 
     private static void stopsOnTheWay(Check check) {

@@ -7,6 +7,7 @@ final class ReaderTests {
         numbers(check);
         warmer(check);
         warmAtMost(check);
+        eightReaders(check);
         cooler(check);
         noWayBack(check);
         coolAtACut(check);
@@ -57,6 +58,23 @@ final class ReaderTests {
         check.same(40, "warmthOf(1)", x.warmthOf(1), 39);
         x.passHours(1);
         check.same(40, "warmthOf(0) an hour on", x.warmthOf(0), 98);
+    }
+
+    private static void eightReaders(Check check) {
+        LiftNovel x = new LiftNovel();
+        for (int reader = 0; reader < 8; reader++) {
+            x.addReader(reader, 10 + reader);
+        }
+        x.addParagraph(0, 7, 9);
+        x.call(0);
+        x.passHours(1);
+        for (int reader = 0; reader < 8; reader++) {
+            int warmer = reader == 7 ? 9 : 3;
+            check.same(40, "warmthOf(" + reader + ") of 8", x.warmthOf(reader), 10 + reader + warmer);
+        }
+        x.passHours(14);
+        check.same(38, "subscribers() of 8", x.subscribers(), 7);
+        check.same(42, "warmest() of 8", x.warmest(), 7);
     }
 
     private static void cooler(Check check) {
