@@ -5,6 +5,18 @@ final class Check {
     private final TreeSet<Integer> promises = new TreeSet<>();
     private int passed = 0;
     private int failed = 0;
+    private String sentence = "";
+
+    /** What is looked at from now on is about this sentence of the document; about none in particular with "". */
+    void about(String words) {
+        sentence = words.isEmpty() ? "" : " (\"" + words + "\")";
+    }
+
+    /** A boundary case of the document without a test. */
+    void missing(String words) {
+        failed++;
+        System.out.println("no test for the boundary case in " + words);
+    }
 
     void same(int promise, String what, long got, long want) {
         note(promise, got == want, what + " answered " + got + ", due is " + want);
@@ -64,7 +76,7 @@ final class Check {
             passed++;
         } else {
             failed++;
-            System.out.println("promise " + promise + ": " + complaint);
+            System.out.println("promise " + promise + sentence + ": " + complaint);
         }
     }
 
@@ -75,6 +87,10 @@ final class Check {
                 System.out.println("promise " + promise + " has no test");
             }
         }
+    }
+
+    int looked() {
+        return passed + failed;
     }
 
     int passed() {

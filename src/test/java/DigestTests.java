@@ -1,3 +1,6 @@
+import java.util.ArrayList;
+import java.util.List;
+
 /** Promise 55: the checksum, reckoned again from the other answers. */
 final class DigestTests {
     private DigestTests() {
@@ -50,30 +53,41 @@ final class DigestTests {
     }
 
     static long of(LiftNovel x) {
-        long[] lift = {x.floors(), x.hours(), x.liftAt(), x.goes(), x.calls(), x.stuckFor(), x.wear(), x.limit(),
-            x.suspense(), x.cuts(), x.instalments(), x.mostThrilling(), x.longestWait(), x.climbs(),
-            x.subscribers(), x.warmest(), x.kindest(), x.hoursUntilStuck(), x.printedIn(20),
-            x.subscribersIn(20), x.bestToCall(10), x.bestToAllow(10)};
-        long d = fold(2293, lift);
-        for (int f = 0; f < x.floors(); f++) {
-            d = fold(d, x.isCalled(f) ? 1 : 0, x.paragraphs(f), x.nextParagraph(f), x.cutOn(f), x.hoursUntilStop(f));
-        }
-        for (int t = 0; t <= 7; t++) {
-            d = fold(d, x.isForbidden(t) ? 1 : 0, x.toCome(t));
-        }
-        for (int i = 0; i < x.instalments(); i++) {
-            d = fold(d, x.floorIn(i), x.paragraphIn(i), x.thrillIn(i), x.hourIn(i));
-        }
-        for (int r = 0; r < x.readers(); r++) {
-            d = fold(d, x.warmthOf(r), x.isSubscriber(r) ? 1 : 0);
-        }
-        for (int m = 0; m < x.mirrors(); m++) {
-            d = fold(d, x.gradesBy(m), x.favouriteOf(m));
-        }
-        return d;
+        return fold(2293, numbers(x));
     }
 
-    private static long fold(long start, long... numbers) {
+    /** All numbers that the checksum is made of, in their order. */
+    static long[] numbers(LiftNovel x) {
+        List<Integer> all = new ArrayList<>();
+        put(all, x.floors(), x.hours(), x.liftAt(), x.goes(), x.calls(), x.stuckFor(), x.wear(), x.limit());
+        put(all, x.suspense(), x.cuts(), x.instalments(), x.mostThrilling(), x.longestWait(), x.climbs());
+        put(all, x.subscribers(), x.warmest(), x.kindest(), x.hoursUntilStuck(), x.printedIn(20));
+        put(all, x.subscribersIn(20), x.bestToCall(10), x.bestToAllow(10));
+        for (int f = 0; f < x.floors(); f++) {
+            put(all, x.isCalled(f) ? 1 : 0, x.paragraphs(f), x.nextParagraph(f), x.cutOn(f), x.hoursUntilStop(f));
+        }
+        for (int t = 0; t <= 7; t++) {
+            put(all, x.isForbidden(t) ? 1 : 0, x.toCome(t));
+        }
+        for (int i = 0; i < x.instalments(); i++) {
+            put(all, x.floorIn(i), x.paragraphIn(i), x.thrillIn(i), x.hourIn(i));
+        }
+        for (int r = 0; r < x.readers(); r++) {
+            put(all, x.warmthOf(r), x.isSubscriber(r) ? 1 : 0);
+        }
+        for (int m = 0; m < x.mirrors(); m++) {
+            put(all, x.gradesBy(m), x.favouriteOf(m));
+        }
+        return all.stream().mapToLong(Integer::longValue).toArray();
+    }
+
+    private static void put(List<Integer> all, int... numbers) {
+        for (int number : numbers) {
+            all.add(number);
+        }
+    }
+
+    static long fold(long start, long... numbers) {
         long d = start;
         for (long number : numbers) {
             d = d * 31 + number;

@@ -106,19 +106,10 @@ final class InstalmentTests {
 
     /** As many instalments as there can be: 12 chapters of 9 paragraphs. */
     private static void allOfThem(Check check) {
-        LiftNovel x = new LiftNovel();
-        x.begin(12);
-        x.setLimit(99);
-        for (int number = 0; number < 9; number++) {
-            for (int floor = 0; floor < 12; floor++) {
-                x.addParagraph(floor, (floor + number) % 8, (floor * number) % 10);
-            }
-        }
+        LiftNovel x = Scenes.full();
         int printed = 0;
         for (int round = 0; round < 9; round++) {
-            for (int floor = 0; floor < 12; floor++) {
-                x.call(floor);
-            }
+            Scenes.callAll(x);
             printed += x.passHours(30);
         }
         check.same(29, "instalments()", x.instalments(), 108);

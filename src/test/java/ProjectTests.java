@@ -1,10 +1,13 @@
-/** All tests of the project; ends with exit code 1 if something did not hold. */
+import java.io.IOException;
+
+/** All tests of the project, with the document's path as an argument; ends with exit code 1 if something did not hold. */
 public final class ProjectTests {
     private ProjectTests() {
     }
 
-    public static void main(String[] args) {
+    public static void main(String[] args) throws IOException {
         Check check = new Check();
+        EdgeTests.run(check, args.length > 0 ? args[0] : "../shared/DOC.md");
         FaceTests.run(check);
         HouseTests.run(check);
         LiftTests.run(check);
