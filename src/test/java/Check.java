@@ -12,10 +12,10 @@ final class Check {
         sentence = words.isEmpty() ? "" : " (\"" + words + "\")";
     }
 
-    /** A boundary case of the document without a test. */
+    /** Words of the document without a test. */
     void missing(String words) {
         failed++;
-        System.out.println("no test for the boundary case in " + words);
+        System.out.println("no test speaks of " + words);
     }
 
     void same(int promise, String what, long got, long want) {

@@ -12,16 +12,14 @@ import java.util.regex.Pattern;
 /** The document's text by its sections, and which of its words have a test of their own. */
 final class Document {
     static final String USE = "What it is";
+    static final String FACE = "The public face";
     static final String TERMS = "Terms";
+    static final String NOT_PROMISED = "Not promised";
     private static final String PROMISE = "Promise ";
 
-    /** The words by which a sentence names a boundary case: too small, too large, empty, full, refused, and the like. */
-    private static final Pattern BOUNDARY = Pattern.compile("Throws|\\bat (?:most|least|first)\\b|-1\\b|\\bwithout\\b"
-            + "|of (?:several|two)\\b|wraps around|\\bfrom 0\\b|towards 0|or more\\b|neither|changes nothing"
-            + "|nothing is changed|[Ii]f (?:some|no) floor|if by none|\\bempty\\b|already|\\b0 if\\b|\\b[012] to \\d"
-            + "|several exceptions|forbidden or not|no subscriber|not (?:stuck|warm|called|printed)|any more"
-            + "|nothing was printed|\\(0|1 or 0");
-    private static final int WORDS_SHOWN = 40;
+    private static final Pattern WORD = Pattern.compile("[A-Za-z0-9]+");
+    /** Between two sentences that have tests it tells nothing more. */
+    private static final String JOIN = "and";
 
     private final Map<String, String> texts = new LinkedHashMap<>();
     private final Map<String, BitSet> tested = new LinkedHashMap<>();
@@ -45,13 +43,21 @@ final class Document {
     }
 
     private void add(String section, String text) {
-        texts.put(section, text.replaceAll("\\s+", " "));
+        texts.put(section, oneLine(text));
         tested.put(section, new BitSet());
+    }
+
+    static String oneLine(String text) {
+        return text.replaceAll("\\s+", " ").trim();
+    }
+
+    String text(String section) {
+        return texts.getOrDefault(section, "");
     }
 
     /** Answers whether the words stand in the section; they count as tested from now on. */
     boolean take(String section, String words) {
-        String text = texts.getOrDefault(section, "");
+        String text = text(section);
         int at = text.indexOf(words);
         for (int next = at; next >= 0; next = text.indexOf(words, next + 1)) {
             tested.get(section).set(next, next + words.length());
@@ -59,26 +65,38 @@ final class Document {
         return at >= 0;
     }
 
-    /** The boundary cases of the use, the terms and the promises that no test took, with the words about them. */
+    /** What no test took, of all sections. */
     List<String> untested() {
         List<String> found = new ArrayList<>();
-        for (Map.Entry<String, String> section : texts.entrySet()) {
-            String name = section.getKey();
-            if (!name.equals(USE) && !name.equals(TERMS) && !name.startsWith(PROMISE)) {
-                continue;
-            }
-            Matcher boundary = BOUNDARY.matcher(section.getValue());
-            while (boundary.find()) {
-                if (tested.get(name).nextClearBit(boundary.start()) < boundary.end()) {
-                    found.add(name + ": .." + around(section.getValue(), boundary) + "..");
-                }
+        for (String section : texts.keySet()) {
+            for (String words : untestedIn(section)) {
+                found.add(section + ": .." + words + "..");
             }
         }
         return found;
     }
 
-    private static String around(String text, Matcher boundary) {
-        return text.substring(Math.max(0, boundary.start() - WORDS_SHOWN),
-                Math.min(text.length(), boundary.end() + WORDS_SHOWN));
+    /** Words one behind the other as one text. */
+    private List<String> untestedIn(String section) {
+        List<String> found = new ArrayList<>();
+        String text = text(section);
+        BitSet isTested = tested.get(section);
+        int last = -1;
+        int start = -1;
+        Matcher word = WORD.matcher(text);
+        while (word.find()) {
+            boolean isFree = word.group().equals(JOIN) || isTested.nextClearBit(word.start()) >= word.end();
+            if (isFree && start >= 0) {
+                found.add(text.substring(start, last));
+                start = -1;
+            } else if (!isFree && start < 0) {
+                start = word.start();
+            }
+            last = word.end();
+        }
+        if (start >= 0) {
+            found.add(text.substring(start, last));
+        }
+        return found;
     }
 }

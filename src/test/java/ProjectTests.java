@@ -1,13 +1,17 @@
 import java.io.IOException;
 
-/** All tests of the project, with the document's path as an argument; ends with exit code 1 if something did not hold. */
+/**
+ * All tests of the project, with the paths of the document, the program and README.md as arguments; ends with exit
+ * code 1 if something did not hold.
+ */
 public final class ProjectTests {
     private ProjectTests() {
     }
 
     public static void main(String[] args) throws IOException {
         Check check = new Check();
-        EdgeTests.run(check, args.length > 0 ? args[0] : "../shared/DOC.md");
+        SentenceTests.run(check, path(args, 0, "../shared/DOC.md"), path(args, 1, "src/main/java/LiftNovel.java"));
+        ReadmeTests.run(check, path(args, 2, "README.md"));
         FaceTests.run(check);
         HouseTests.run(check);
         LiftTests.run(check);
@@ -23,5 +27,9 @@ public final class ProjectTests {
         if (check.failed() != 0) {
             System.exit(1);
         }
+    }
+
+    private static String path(String[] args, int number, String otherwise) {
+        return args.length > number ? args[number] : otherwise;
     }
 }

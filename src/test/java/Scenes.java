@@ -1,5 +1,15 @@
 /** Objects on which something has happened already. */
 final class Scenes {
+    /** Makes the same object each time. */
+    interface Maker {
+        LiftNovel make();
+    }
+
+    /** At rest and at work, empty and full, worn and stuck. */
+    static final Maker[] MAKERS = {LiftNovel::new, Scenes::called, Scenes::told, Scenes::busy, Scenes::longSuspense,
+        Scenes::sixtyHoursAhead, Scenes::fullAndCalled, () -> stuckOften(3), Scenes::censored, Scenes::partlyTold,
+        Scenes::onItsWay, Scenes::stuckAndCalled};
+
     private Scenes() {
     }
 
@@ -80,6 +90,72 @@ final class Scenes {
             callAll(x);
             x.passHours(60);
         }
+        return x;
+    }
+
+    /** As much as there can be, and all floors called: in each of the next 12 hours an instalment is printed. */
+    static LiftNovel fullAndCalled() {
+        LiftNovel x = full();
+        callAll(x);
+        return x;
+    }
+
+    /** A full house, all floors but 5 called, three topics forbidden; the lift is on its way and gets stuck often. */
+    static LiftNovel censored() {
+        LiftNovel x = full();
+        x.setLimit(3);
+        x.turnTopic(1);
+        x.turnTopic(4);
+        x.turnTopic(6);
+        x.call(7);
+        x.passHours(5);
+        for (int floor = 0; floor < 12; floor++) {
+            if (floor != 5) {
+                x.call(floor);
+            }
+        }
+        return x;
+    }
+
+    /** A full house behind three rounds, in which two topics were forbidden. */
+    static LiftNovel partlyTold() {
+        LiftNovel x = full();
+        x.turnTopic(2);
+        x.turnTopic(5);
+        for (int round = 0; round < 3; round++) {
+            callAll(x);
+            x.passHours(14);
+        }
+        return x;
+    }
+
+    /** Between the floors 5 and 11, on the floor 6, on its way up; what is printed on the floor 5 would be liked most. */
+    static LiftNovel onItsWay() {
+        LiftNovel x = standingOn(5);
+        x.addReader(0, 20);
+        x.addReader(1, 9);
+        x.addParagraph(5, 0, 9);
+        x.addParagraph(7, 1, 3);
+        x.addParagraph(11, 0, 5);
+        x.turnTopic(1);
+        x.call(11);
+        x.passHours(1);
+        return x;
+    }
+
+    /** Stuck for 25 hours on the floor 5 of a full house, with all floors called and the topics 3 and 4 forbidden. */
+    static LiftNovel stuckAndCalled() {
+        LiftNovel x = stuckLong(worn(), 5);
+        for (int floor = 0; floor < 12; floor++) {
+            x.addParagraph(floor, floor % 8, floor % 10);
+        }
+        x.addReader(7, 20);
+        x.addReader(5, 20);
+        x.addReader(0, 3);
+        x.turnTopic(3);
+        x.turnTopic(4);
+        callAll(x);
+        x.passHours(12);
         return x;
     }
 

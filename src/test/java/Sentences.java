@@ -1,6 +1,6 @@
 import java.util.function.Consumer;
 
-/** The sentences of the document that name a boundary case, each with a test of its own. */
+/** The sentences of the document, each with a test of its own, or free. */
 final class Sentences {
     private final Check check;
     private final Document document;
@@ -26,6 +26,18 @@ final class Sentences {
         sentence(promise, Document.USE, words, test);
     }
 
+    /** A line of the section "The public face". */
+    void face(int promise, String words, Consumer<Edge> test) {
+        sentence(promise, Document.FACE, words, test);
+    }
+
+    /** A sentence that leaves something free: whatever the program does, it holds, so there is nothing to test. */
+    void free(String section, String words) {
+        if (!document.take(section, words)) {
+            check.missing(section + ", where these words do not stand: " + words);
+        }
+    }
+
     private void sentence(int promise, String section, String words, Consumer<Edge> test) {
         count++;
         check.yes(promise, "\"" + words + "\" stands in the section " + section, document.take(section, words));
@@ -40,7 +52,7 @@ final class Sentences {
         check.about("");
     }
 
-    void everyBoundaryCaseHasATest() {
+    void everyWordHasATest() {
         for (String words : document.untested()) {
             check.missing(words);
         }

@@ -8,11 +8,12 @@ final class TermsEdges {
         all.terms(40, "/ is cut towards 0", TermsEdges::thirdOfAThrill);
         all.terms(17, "/ is cut towards 0", TermsEdges::quarterOfALimit);
         all.terms(12, "Time is told in hours, from 0", TermsEdges::hoursFromZero);
-        all.terms(11, "There are 2 to 12 (6, at first), numbered from 0, the lowest one", TermsEdges::floors);
-        all.terms(21, "at most 9 paragraphs, numbered from 0 (none, at first)", TermsEdges::paragraphs);
+        all.terms(11, "Floors. There are 2 to 12 (6, at first), numbered from 0, the lowest one", TermsEdges::floors);
+        all.terms(21, "Each is a chapter of at most 9 paragraphs, numbered from 0 (none, at first)", TermsEdges::paragraphs);
         all.terms(3, "each paragraph has a topic, 0 to 7, and a thrill, 0 to 9", TermsEdges::topicsAndThrills);
-        all.terms(22, "the first one that was neither printed nor cut", TermsEdges::neitherPrintedNorCut);
-        all.terms(26, "Each topic is forbidden or not (not, at first)", TermsEdges::nothingForbidden);
+        all.terms(22, "The next paragraph of a chapter is the first one that was neither printed nor cut",
+                TermsEdges::neitherPrintedNorCut);
+        all.terms(26, "Censor. Each topic is forbidden or not (not, at first)", TermsEdges::nothingForbidden);
         all.terms(13, "The lift is on a floor (0, at first)", TermsEdges::floorAtFirst);
         all.terms(14, "goes up or down, or stands (at first)", TermsEdges::standsAtFirst);
         all.terms(18, "has some wear (0, at first)", TermsEdges::wearAtFirst);
@@ -21,16 +22,16 @@ final class TermsEdges {
         all.terms(19, "It gets stuck with as much wear as a limit, 1 to 99 (20, at first)", TermsEdges::limits);
         all.terms(20, "Suspense (0, at first)", TermsEdges::suspenseAtFirst);
         all.terms(32, "the suspense as it is printed, added; the suspense is 0 then", TermsEdges::suspenseAdded);
-        all.terms(15, "it is not called any more", TermsEdges::calledNoMore);
+        all.terms(15, "Stopping on a floor: it is not called any more", TermsEdges::calledNoMore);
         all.terms(22, "if its chapter has a next paragraph", TermsEdges::stopWithoutANext);
         all.terms(25, "that is cut, if its topic is forbidden, otherwise printed", TermsEdges::cutOrPrinted);
-        all.terms(40, "which each subscriber reads", TermsEdges::subscribersRead);
+        all.terms(40, "as an instalment, which each subscriber reads", TermsEdges::subscribersRead);
         all.terms(30, "Instalments are numbered from 0", TermsEdges::instalmentsFromZero);
-        all.terms(37, "At most 8, numbered from 0; each has a taste", TermsEdges::eightReaders);
+        all.terms(37, "Readers. At most 8, numbered from 0; each has a taste", TermsEdges::eightReaders);
         all.terms(40, "is so warm as told, 1 to 20, at first", TermsEdges::warmAsTold);
         all.terms(41, "each is a subscriber, at first", TermsEdges::subscriberAtFirst);
         all.terms(40, "otherwise by a third of it; 99 at most", TermsEdges::warmthAtMost);
-        all.terms(43, "At most 4, numbered from 0; each likes", TermsEdges::fourMirrors);
+        all.terms(43, "Mirrors. At most 4, numbered from 0; each likes", TermsEdges::fourMirrors);
         all.terms(7, "each likes a topic and dislikes another one", TermsEdges::likesAndDislikes);
         all.terms(44, "at least 0", TermsEdges::leastGrade);
         all.terms(44, "at most 10", TermsEdges::bestGrade);
